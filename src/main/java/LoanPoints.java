@@ -16,6 +16,7 @@ public final class LoanPoints {
     private static final int TRAIL = 60, MOST_ERRORS = 1000, MOST_STEPS = 300, CHOICE_BITS = 31;
     private static final int SHEETS = 4, FORMS = 3, ITEMS = 60;
     private static final int LOST = 1, INDEX = 2, CAST = 3, STORE = 4, SIZE = 5;
+    private static final int LEAST_INT = -2147483648, MOST_INT = 2147483647;
     private static final int DIGEST_ERRORS = 30, DIGEST_STEPS = 60;
 
     private final Listing listing = new Listing();
@@ -24,7 +25,6 @@ public final class LoanPoints {
     private final Trail trail = new Trail(listing, check);
     private final Walk walk = new Walk(listing);
     private final Sheet[] sheets = new Sheet[SHEETS];
-    private boolean checked = false;
     private int latestFinding = 0;
 
     public LoanPoints() {
@@ -129,7 +129,7 @@ public final class LoanPoints {
     }
 
     private void forget() {
-        checked = false;
+        check.forget();
         plans.forget();
         trail.forget();
         walk.forget();
@@ -141,57 +141,49 @@ public final class LoanPoints {
         if (!listing.has(point)) {
             return BAD;
         }
-        Flow flow = checkedProgram().flow;
+        Flow flow = check.examine().flow;
         return bitOf(flow.onward[point]) | bitOf(flow.aside[point]);
     }
 
     public int reached() {
-        return checkedProgram().flow.reachedPoints;
+        return check.examine().flow.reachedPoints;
     }
 
     public int live(int x) {
-        return isVariable(x) ? checkedProgram().flow.livePoints(x) : BAD;
+        return isVariable(x) ? check.examine().flow.livePoints(x) : BAD;
     }
 
     public int region(int x) {
-        return isVariable(x) ? checkedProgram().flow.regions[x] : BAD;
+        return isVariable(x) ? check.examine().flow.regions[x] : BAD;
     }
 
     public int holds(int point, int x) {
         if (!listing.has(point) || !isVariable(x)) {
             return BAD;
         }
-        return checkedProgram().lending.held[point * VARIABLES + x];
+        return check.examine().lending.held[point * VARIABLES + x];
     }
 
     public int loans() {
-        return checkedProgram().lending.allLoans;
+        return check.examine().lending.allLoans;
     }
 
     public int scope(int point) {
-        return listing.has(point) ? checkedProgram().lending.scoped[point] : BAD;
+        return listing.has(point) ? check.examine().lending.scoped[point] : BAD;
     }
 
     public int active(int point) {
-        return listing.has(point) ? checkedProgram().lending.activated[point] : BAD;
+        return listing.has(point) ? check.examine().lending.activated[point] : BAD;
     }
 
     public int bears(int point) {
         if (!listing.has(point)) {
             return BAD;
         }
-        if (!hasBit(checkedProgram().lending.allLoans, point)) {
+        if (!hasBit(check.examine().lending.allLoans, point)) {
             return NOT;
         }
         return check.flow.bearers(listing, point);
-    }
-
-    private Check checkedProgram() {
-        if (!checked) {
-            check.examine();
-            checked = true;
-        }
-        return check;
     }
 
     private static boolean hasBit(int bits, int number) {
@@ -205,21 +197,21 @@ public final class LoanPoints {
     // ---- errors
 
     public int errors() {
-        return checkedProgram().faults.total;
+        return check.examine().faults.total;
     }
 
     public int error(int i, int what) {
         if (!isBetween(i, 0, MOST_ERRORS - 1) || !isBetween(what, 0, 2)) {
             return BAD;
         }
-        return checkedProgram().faults.tell(i, what);
+        return check.examine().faults.tell(i, what);
     }
 
     public int witness(int i, int j) {
         if (!isBetween(i, 0, MOST_ERRORS - 1) || !isBetween(j, NONE, TRAIL - 1)) {
             return BAD;
         }
-        if (checkedProgram().faults.tell(i, 1) != CLASH) {
+        if (check.examine().faults.tell(i, 1) != CLASH) {
             return NOT;
         }
         trail.show(i);
@@ -238,13 +230,11 @@ public final class LoanPoints {
         if (listing.size == 0) {
             return NONE;
         }
-        checkedProgram();
         plans.findMend();
         return what == 0 ? plans.mendPoint : plans.mendErrors;
     }
 
     public int soft() {
-        checkedProgram();
         plans.findSoft();
         return plans.softPoints;
     }
@@ -300,12 +290,12 @@ public final class LoanPoints {
 
     public int get(int s, int form, int i) {
         if (!isSheet(s) || !isForm(form)) {
-            return Integer.MIN_VALUE;
+            return LEAST_INT;
         }
         int hindrance = sheets[s].hindrance(form, i);
         if (hindrance != 0) {
             latestFinding = hindrance;
-            return Integer.MIN_VALUE;
+            return LEAST_INT;
         }
         return sheets[s].items[i];
     }
@@ -337,7 +327,7 @@ public final class LoanPoints {
         if (sheet.isLost()) {
             return finding(LOST);
         }
-        int written = Math.min(sheet.size, checkedProgram().faults.total);
+        int written = Math.min(sheet.size, check.examine().faults.total);
         for (int i = 0; i < written; i++) {
             sheet.enter(i, check.faults.tell(i, 0));
         }
@@ -349,16 +339,16 @@ public final class LoanPoints {
             case 0:
                 return listing.size;
             case 1:
-                return Integer.bitCount(checkedProgram().flow.reachedPoints);
+                return Integer.bitCount(check.examine().flow.reachedPoints);
             case 2:
-                return Integer.bitCount(checkedProgram().lending.allLoans);
+                return Integer.bitCount(check.examine().lending.allLoans);
             case 3:
-                return checkedProgram().faults.total;
+                return check.examine().faults.total;
             case 4:
             case 5:
             case 6:
             case 7:
-                return checkedProgram().faults.totalOf(what - 4);
+                return check.examine().faults.totalOf(what - 4);
             case 8:
                 return latestFinding;
             default:
@@ -388,7 +378,7 @@ public final class LoanPoints {
         h = fold(h, soft());
         h = foldRun(h, 0);
         h = foldRun(h, 5);
-        return foldRun(h, Integer.MAX_VALUE);
+        return foldRun(h, MOST_INT);
     }
 
     private static long fold(long h, long answer) {
@@ -439,12 +429,19 @@ public final class LoanPoints {
         return -10 - number;
     }
 
-    /** The statements, as they were told. */
+    /** The statements, as they were told, and what follows from a statement alone. */
     private static final class Listing {
         final int[] kinds = new int[POINTS];
         final int[] xs = new int[POINTS];
         final int[] places = new int[POINTS];
         final int[] targets = new int[POINTS];
+        /** The kinds that count: a plan through a reference is a take, though code() tells what was told. */
+        final int[] acts = new int[POINTS];
+        /** The variables and paths of the places. */
+        final int[] owners = new int[POINTS];
+        final int[] paths = new int[POINTS];
+        final boolean[] lends = new boolean[POINTS];
+        final boolean[] goesThrough = new boolean[POINTS];
         int size = 0;
 
         boolean has(int point) {
@@ -452,35 +449,20 @@ public final class LoanPoints {
         }
 
         void fill(int point, int kind, int x, int place, int target) {
-            kinds[point] = kind;
             xs[point] = x;
             places[point] = place;
             targets[point] = target;
+            owners[point] = place / PATHS;
+            paths[point] = place % PATHS;
+            turn(point, kind);
         }
 
-        /** The kind that counts: a plan through a reference is a take. code() still tells what was told. */
-        int kindAt(int point) {
-            return kinds[point] == PLAN && isDeepAt(point) ? TAKE : kinds[point];
-        }
-
-        int ownerAt(int point) {
-            return places[point] / PATHS;
-        }
-
-        int pathAt(int point) {
-            return places[point] % PATHS;
-        }
-
-        boolean isDeepAt(int point) {
-            return pathAt(point) >= DEEP;
-        }
-
-        boolean lendsAt(int point) {
-            return isBetween(kinds[point], SHARE, PLAN);
-        }
-
-        boolean goesThroughAt(int point) {
-            return isBetween(kinds[point], USE, PLAN) && isDeepAt(point);
+        void turn(int point, int kind) {
+            boolean deep = paths[point] >= DEEP;
+            kinds[point] = kind;
+            acts[point] = kind == PLAN && deep ? TAKE : kind;
+            lends[point] = kind == SHARE || kind == TAKE || kind == PLAN;
+            goesThrough[point] = deep && (lends[point] || kind == USE || kind == SET);
         }
     }
 
@@ -492,46 +474,25 @@ public final class LoanPoints {
         /** Variables, as bits. */
         final int[] reads = new int[POINTS];
         final int[] writes = new int[POINTS];
-        final int[] liveVariables = new int[POINTS];
+        private final int[] liveVariables = new int[POINTS];
         /** The variable whose loans x comes to depend on at a point, NONE where there is none. */
-        final int[] sources = new int[POINTS];
+        private final int[] sources = new int[POINTS];
         final int[] regions = new int[VARIABLES];
-        int size = 0;
+        private int size = 0;
         int reachedPoints = 0;
 
-        void survey(Listing listing) {
+        void findNext(Listing listing) {
             size = listing.size;
             for (int point = 0; point < size; point++) {
-                markNext(listing, point);
-                markVariables(listing, point);
+                int act = listing.acts[point];
+                int behind = act == GO || act == STOP ? NONE : point + 1;
+                int target = act == GO || act == MAYBE ? listing.targets[point] : NONE;
+                onward[point] = listing.has(behind) ? behind : NONE;
+                aside[point] = listing.has(target) ? target : NONE;
             }
-            findReached();
-            findLive();
-            findRegions(listing);
         }
 
-        private void markNext(Listing listing, int point) {
-            int kind = listing.kindAt(point);
-            int behind = kind == GO || kind == STOP ? NONE : point + 1;
-            int target = kind == GO || kind == MAYBE ? listing.targets[point] : NONE;
-            onward[point] = listing.has(behind) ? behind : NONE;
-            aside[point] = listing.has(target) ? target : NONE;
-        }
-
-        private void markVariables(Listing listing, int point) {
-            int kind = listing.kindAt(point);
-            int owner = listing.ownerAt(point);
-            boolean through = listing.goesThroughAt(point);
-            boolean lends = listing.lendsAt(point);
-            boolean readsOwner = kind == USE || kind == MOVE || through;
-            boolean writesOwner = kind == MOVE || kind == SET && !through;
-            boolean writesX = lends || kind == MOVE;
-            reads[point] = readsOwner ? 1 << owner : 0;
-            writes[point] = (writesOwner ? 1 << owner : 0) | (writesX ? 1 << listing.xs[point] : 0);
-            sources[point] = kind == MOVE || lends && through ? owner : NONE;
-        }
-
-        private void findReached() {
+        void findReached() {
             reachedPoints = size > 0 ? 1 : 0;
             boolean grows = true;
             for (int round = 0; grows && round < ROUNDS; round++) {
@@ -545,7 +506,21 @@ public final class LoanPoints {
             }
         }
 
-        private void findLive() {
+        void findUses(Listing listing) {
+            for (int point = 0; point < size; point++) {
+                int act = listing.acts[point];
+                boolean lends = listing.lends[point];
+                boolean through = listing.goesThrough[point];
+                int owner = 1 << listing.owners[point];
+                int x = 1 << listing.xs[point];
+                boolean writesOwner = act == MOVE || act == SET && !through;
+                reads[point] = act == USE || act == MOVE || through ? owner : 0;
+                writes[point] = (writesOwner ? owner : 0) | (act == MOVE || lends ? x : 0);
+                sources[point] = act == MOVE || lends && through ? listing.owners[point] : NONE;
+            }
+        }
+
+        void findLive() {
             for (int point = 0; point < size; point++) {
                 liveVariables[point] = 0;
             }
@@ -556,13 +531,15 @@ public final class LoanPoints {
                     int behind = onward[point] == NONE ? 0 : liveVariables[onward[point]];
                     behind |= aside[point] == NONE ? 0 : liveVariables[aside[point]];
                     int found = reads[point] | behind & ~writes[point];
-                    grows |= found != liveVariables[point];
-                    liveVariables[point] = found;
+                    if (found != liveVariables[point]) {
+                        liveVariables[point] = found;
+                        grows = true;
+                    }
                 }
             }
         }
 
-        private void findRegions(Listing listing) {
+        void findRegions(Listing listing) {
             for (int x = 0; x < VARIABLES; x++) {
                 regions[x] = livePoints(x) & reachedPoints;
             }
@@ -570,11 +547,13 @@ public final class LoanPoints {
             for (int round = 0; grows && round < ROUNDS; round++) {
                 grows = false;
                 for (int point = 0; point < size; point++) {
-                    if (sources[point] != NONE && hasBit(reachedPoints, point)) {
-                        int before = regions[sources[point]];
-                        int found = before | regions[listing.xs[point]];
-                        grows |= found != before;
-                        regions[sources[point]] = found;
+                    int source = sources[point];
+                    if (source != NONE && hasBit(reachedPoints, point)) {
+                        int found = regions[source] | regions[listing.xs[point]];
+                        if (found != regions[source]) {
+                            regions[source] = found;
+                            grows = true;
+                        }
                     }
                 }
             }
@@ -594,7 +573,8 @@ public final class LoanPoints {
             for (int round = 0; grows && round < ROUNDS; round++) {
                 int before = found;
                 for (int point = 0; point < size; point++) {
-                    if (sources[point] != NONE && hasBit(reachedPoints, point) && hasBit(found, sources[point])) {
+                    int source = sources[point];
+                    if (source != NONE && hasBit(reachedPoints, point) && hasBit(found, source)) {
                         found |= 1 << listing.xs[point];
                     }
                 }
@@ -614,26 +594,19 @@ public final class LoanPoints {
         /** What each variable may be ahead of each point: loans and VALUE, as bits. */
         final int[] held = new int[POINTS * VARIABLES];
         private final int[] behind = new int[VARIABLES];
-        /** Loans by points, as bits. */
+        private int changed = 0;
+        /** Loans by points, as bits: in scope, active. */
         final int[] scoped = new int[POINTS];
         final int[] activated = new int[POINTS];
+        /** Loans by points, as bits: whom the statement kills, whose region has the point, whose plan it goes through. */
         private final int[] kills = new int[POINTS];
         private final int[] within = new int[POINTS];
-        private final int[] wakes = new int[POINTS];
+        final int[] wakes = new int[POINTS];
         /** Loans by the variable that their place goes through, and by their x. */
         private final int[] throughOwner = new int[VARIABLES];
         private final int[] byX = new int[VARIABLES];
 
-        void survey(Listing listing, Flow flow) {
-            sortLoans(listing, flow);
-            findHeld(listing, flow);
-            for (int point = 0; point < flow.size; point++) {
-                markLoans(listing, flow, point);
-            }
-            findScopes(flow);
-        }
-
-        private void sortLoans(Listing listing, Flow flow) {
+        void findLoans(Listing listing, int reachedPoints) {
             allLoans = 0;
             shareLoans = 0;
             takeLoans = 0;
@@ -642,44 +615,44 @@ public final class LoanPoints {
                 throughOwner[x] = 0;
                 byX[x] = 0;
             }
-            for (int point = 0; point < flow.size; point++) {
-                if (hasBit(flow.reachedPoints, point) && listing.lendsAt(point)) {
+            for (int point = 0; point < listing.size; point++) {
+                if (listing.lends[point] && hasBit(reachedPoints, point)) {
                     sortLoan(listing, point);
                 }
             }
         }
 
         private void sortLoan(Listing listing, int point) {
-            int kind = listing.kindAt(point);
+            int act = listing.acts[point];
             int loan = 1 << point;
             allLoans |= loan;
-            shareLoans |= kind == SHARE ? loan : 0;
-            takeLoans |= kind == TAKE ? loan : 0;
-            planLoans |= kind == PLAN ? loan : 0;
-            boolean deep = listing.isDeepAt(point);
-            int owner = listing.ownerAt(point);
+            shareLoans |= act == SHARE ? loan : 0;
+            takeLoans |= act == TAKE ? loan : 0;
+            planLoans |= act == PLAN ? loan : 0;
+            boolean through = listing.goesThrough[point];
+            int owner = listing.owners[point];
             int x = listing.xs[point];
-            if (deep) {
+            if (through) {
                 throughOwner[owner] |= loan;
             }
             // a loan through its own x is never in scope, so no region keeps it
-            if (!deep || owner != x) {
+            if (!through || owner != x) {
                 byX[x] |= loan;
             }
         }
 
-        private void findHeld(Listing listing, Flow flow) {
-            for (int i = 0; i < flow.size * VARIABLES; i++) {
+        void findHeld(Listing listing, Flow flow) {
+            for (int i = 0; i < listing.size * VARIABLES; i++) {
                 held[i] = i < VARIABLES ? VALUE : 0;
             }
-            boolean grows = true;
-            for (int round = 0; grows && round < ROUNDS; round++) {
-                grows = false;
-                for (int point = 0; point < flow.size; point++) {
-                    if (hasBit(flow.reachedPoints, point)) {
+            changed = listing.size > 0 ? 1 : 0;
+            for (int round = 0; changed != 0 && round < ROUNDS; round++) {
+                for (int point = 0; point < listing.size; point++) {
+                    if (hasBit(changed, point)) {
+                        changed &= ~(1 << point);
                         stepBehind(listing, point);
-                        grows |= join(flow.onward[point]);
-                        grows |= join(flow.aside[point]);
+                        join(flow.onward[point]);
+                        join(flow.aside[point]);
                     }
                 }
             }
@@ -687,72 +660,65 @@ public final class LoanPoints {
 
         private void stepBehind(Listing listing, int point) {
             System.arraycopy(held, point * VARIABLES, behind, 0, VARIABLES);
-            int kind = listing.kindAt(point);
-            int owner = listing.ownerAt(point);
+            int act = listing.acts[point];
+            int owner = listing.owners[point];
             int x = listing.xs[point];
-            if (listing.lendsAt(point)) {
+            if (listing.lends[point]) {
                 behind[x] = 1 << point;
-            } else if (kind == SET && !listing.isDeepAt(point)) {
+            } else if (act == SET && !listing.goesThrough[point]) {
                 behind[owner] = VALUE;
-            } else if (kind == MOVE && owner != x) {
+            } else if (act == MOVE && owner != x) {
                 behind[x] = behind[owner];
                 behind[owner] = VALUE;
             }
         }
 
-        private boolean join(int point) {
+        private void join(int point) {
             if (point == NONE) {
-                return false;
+                return;
             }
-            boolean grows = false;
+            int row = point * VARIABLES;
             for (int x = 0; x < VARIABLES; x++) {
-                int before = held[point * VARIABLES + x];
-                int found = before | behind[x];
-                grows |= found != before;
-                held[point * VARIABLES + x] = found;
+                int found = held[row + x] | behind[x];
+                if (found != held[row + x]) {
+                    held[row + x] = found;
+                    changed |= 1 << point;
+                }
             }
-            return grows;
         }
 
-        private void markLoans(Listing listing, Flow flow, int point) {
-            int killed = 0;
-            int kept = 0;
-            for (int x = 0; x < VARIABLES; x++) {
-                killed |= hasBit(flow.writes[point], x) ? throughOwner[x] : 0;
-                kept |= hasBit(flow.regions[x], point) ? byX[x] : 0;
-            }
-            kills[point] = killed;
-            within[point] = kept;
-            wakes[point] = plannedThrough(listing, point);
-        }
-
-        /** The loans of plan that a variable may be through which the statement goes. */
-        int plannedThrough(Listing listing, int point) {
-            return heldThrough(listing, point) & planLoans;
-        }
-
-        int heldThrough(Listing listing, int point) {
-            return listing.goesThroughAt(point) ? heldByOwner(listing, point) : 0;
-        }
-
-        int heldByOwner(Listing listing, int point) {
-            return held[point * VARIABLES + listing.ownerAt(point)];
-        }
-
-        private void findScopes(Flow flow) {
-            for (int point = 0; point < flow.size; point++) {
+        void markPoints(Listing listing, Flow flow) {
+            for (int point = 0; point < listing.size; point++) {
+                int killed = 0;
+                int kept = 0;
+                for (int x = 0; x < VARIABLES; x++) {
+                    killed |= hasBit(flow.writes[point], x) ? throughOwner[x] : 0;
+                    kept |= hasBit(flow.regions[x], point) ? byX[x] : 0;
+                }
+                kills[point] = killed;
+                within[point] = kept;
+                wakes[point] = heldThrough(listing, point) & planLoans;
                 scoped[point] = 0;
                 activated[point] = 0;
             }
+        }
+
+        /** What the variable may be through which the statement goes; nothing, if it goes through none. */
+        int heldThrough(Listing listing, int point) {
+            return listing.goesThrough[point] ? held[point * VARIABLES + listing.owners[point]] : 0;
+        }
+
+        void findScopes(Flow flow, int size) {
             boolean grows = true;
             for (int round = 0; grows && round < ROUNDS; round++) {
                 grows = false;
-                for (int point = 0; point < flow.size; point++) {
+                for (int point = 0; point < size; point++) {
                     int left = scoped[point] & ~kills[point];
                     int awake = left & (activated[point] | wakes[point]);
                     int out = left | allLoans & 1 << point;
-                    grows |= pass(flow.onward[point], out, awake);
-                    grows |= pass(flow.aside[point], out, awake);
+                    boolean onwardGrows = pass(flow.onward[point], out, awake);
+                    boolean asideGrows = pass(flow.aside[point], out, awake);
+                    grows = grows || onwardGrows || asideGrows;
                 }
             }
         }
@@ -772,7 +738,7 @@ public final class LoanPoints {
         /** The points, as bits, that a way may pass on which a loan stays in scope. */
         int passable(Listing listing, Flow flow, int loan) {
             int found = flow.regions[listing.xs[loan]];
-            for (int point = 0; point < flow.size; point++) {
+            for (int point = 0; point < listing.size; point++) {
                 if (hasBit(kills[point], loan)) {
                     found &= ~(1 << point);
                 }
@@ -787,103 +753,80 @@ public final class LoanPoints {
         private int size = 0;
         int total = 0;
 
-        void survey(Listing listing, Flow flow, Lending lending) {
-            size = flow.size;
-            total = 0;
-            for (int point = 0; point < size; point++) {
-                boolean counts = hasBit(flow.reachedPoints, point);
-                int row = point * ERROR_KINDS;
-                byPoint[row + CLASH] = counts ? clashes(listing, lending, point) : 0;
-                byPoint[row + NO_REFERENCE] = counts ? noReference(listing, lending, point) : 0;
-                byPoint[row + FROZEN] = counts ? frozen(listing, lending, point) : 0;
-                byPoint[row + NESTED] = counts ? nested(listing, lending, point) : 0;
-                for (int kind = 0; kind < ERROR_KINDS; kind++) {
-                    total += Integer.bitCount(byPoint[row + kind]);
-                }
+        void findClashes(Listing listing, Lending lending) {
+            for (int point = 0; point < listing.size; point++) {
+                int scoped = lending.scoped[point];
+                byPoint[point * ERROR_KINDS + CLASH] = scoped == 0 ? 0 : clashes(listing, lending, point);
             }
         }
 
+        /** The accesses of a statement, in the document's order, against the loans that are in scope. */
         private static int clashes(Listing listing, Lending lending, int point) {
-            if (lending.scoped[point] == 0) {
-                return 0;
-            }
-            int kind = listing.kindAt(point);
+            int scoped = lending.scoped[point];
+            int act = listing.acts[point];
             int place = listing.places[point];
             int found = 0;
-            if (kind == USE || kind == SHARE || kind == PLAN) {
-                found = readClashes(listing, lending, point, place);
-            } else if (kind == SET || kind == TAKE) {
-                found = writeClashes(listing, lending, point, place, kind == SET);
-            } else if (kind == MOVE) {
-                found = writeClashes(listing, lending, point, listing.ownerAt(point) * PATHS, false);
+            if (act == USE || act == SHARE || act == PLAN) {
+                int exclusive = lending.takeLoans | lending.activated[point];
+                found = struck(listing, scoped & exclusive, place, false);
+            } else if (act == SET || act == TAKE) {
+                found = struck(listing, scoped, place, act == SET);
+            } else if (act == MOVE) {
+                found = struck(listing, scoped, listing.owners[point] * PATHS, false);
             }
-            if (kind == PLAN) {
-                found |= lending.scoped[point] & 1 << point;
+            if (act == PLAN) {
+                found |= scoped & 1 << point;
             }
-            if (listing.lendsAt(point) || kind == MOVE) {
-                found |= writeClashes(listing, lending, point, listing.xs[point] * PATHS, true);
+            if (act == MOVE || listing.lends[point]) {
+                found |= struck(listing, scoped, listing.xs[point] * PATHS, true);
             }
-            return found | wakingClashes(listing, lending, point);
-        }
-
-        private static int wakingClashes(Listing listing, Lending lending, int point) {
-            int woken = lending.plannedThrough(listing, point);
-            int found = 0;
+            int woken = lending.wakes[point];
             for (int loan = 0; woken >> loan != 0 && loan < POINTS; loan++) {
-                if (hasBit(woken, loan)) {
-                    int struck = writeClashes(listing, lending, point, listing.places[loan], false);
-                    found |= struck & ~(1 << loan);
+                if ((woken >> loan & 1) == 1) {
+                    found |= struck(listing, scoped & ~(1 << loan), listing.places[loan], false);
                 }
             }
             return found;
         }
 
-        private static int readClashes(Listing listing, Lending lending, int point, int place) {
-            int exclusive = lending.takeLoans | lending.activated[point];
-            return overlapping(listing, lending.scoped[point] & exclusive, place, false);
-        }
-
-        private static int writeClashes(Listing listing, Lending lending, int point, int place, boolean flat) {
-            return overlapping(listing, lending.scoped[point], place, flat && place % PATHS < DEEP);
-        }
-
-        private static int overlapping(Listing listing, int loans, int place, boolean onlyShallow) {
+        /** Those of the loans whose places overlap with one; a flat access spares what lies behind a reference. */
+        private static int struck(Listing listing, int loans, int place, boolean flat) {
+            int owner = place / PATHS;
+            int path = place % PATHS;
             int found = 0;
             for (int loan = 0; loans >> loan != 0 && loan < POINTS; loan++) {
-                if (hasBit(loans, loan) && overlap(place, listing.places[loan])
-                    && !(onlyShallow && listing.isDeepAt(loan))) {
-                    found |= 1 << loan;
+                if ((loans >> loan & 1) == 1 && listing.owners[loan] == owner) {
+                    int lent = listing.paths[loan];
+                    boolean overlap = lent == path || lent == 0 || path == 0 || lent >= DEEP && path >= DEEP;
+                    boolean spared = flat && lent >= DEEP && path < DEEP;
+                    found |= overlap && !spared ? 1 << loan : 0;
                 }
             }
             return found;
         }
 
-        private static boolean overlap(int one, int other) {
-            if (one / PATHS != other / PATHS) {
-                return false;
+        /** What is wrong with what the place's variable may be. A point that is not reached holds nothing. */
+        void findMisuses(Listing listing, Lending lending) {
+            for (int point = 0; point < listing.size; point++) {
+                int act = listing.acts[point];
+                int owner = listing.owners[point];
+                int through = lending.heldThrough(listing, point);
+                boolean writes = act == SET || act == TAKE || act == PLAN;
+                boolean lendsWhole = listing.lends[point] && !listing.goesThrough[point];
+                int lent = lendsWhole ? lending.held[point * VARIABLES + owner] & ~VALUE : 0;
+                int row = point * ERROR_KINDS;
+                byPoint[row + NO_REFERENCE] = (through & VALUE) != 0 ? 1 << owner : 0;
+                byPoint[row + FROZEN] = writes ? through & lending.shareLoans : 0;
+                byPoint[row + NESTED] = lent != 0 ? 1 << owner : 0;
             }
-            int path = one % PATHS;
-            int otherPath = other % PATHS;
-            return path == otherPath || path == 0 || otherPath == 0 || path >= DEEP && otherPath >= DEEP;
         }
 
-        private static int noReference(Listing listing, Lending lending, int point) {
-            boolean bare = (lending.heldThrough(listing, point) & VALUE) != 0;
-            return bare ? 1 << listing.ownerAt(point) : 0;
-        }
-
-        private static int frozen(Listing listing, Lending lending, int point) {
-            int kind = listing.kindAt(point);
-            boolean writes = kind == SET || kind == TAKE || kind == PLAN;
-            return writes ? lending.heldThrough(listing, point) & lending.shareLoans : 0;
-        }
-
-        private static int nested(Listing listing, Lending lending, int point) {
-            if (!listing.lendsAt(point) || listing.isDeepAt(point)) {
-                return 0;
+        void addUp(int points) {
+            size = points;
+            total = 0;
+            for (int row = 0; row < size * ERROR_KINDS; row++) {
+                total += Integer.bitCount(byPoint[row]);
             }
-            boolean lendsReference = (lending.heldByOwner(listing, point) & ~VALUE) != 0;
-            return lendsReference ? 1 << listing.ownerAt(point) : 0;
         }
 
         int totalOf(int kind) {
@@ -903,7 +846,7 @@ public final class LoanPoints {
                     if (what == 0) {
                         return row / ERROR_KINDS;
                     }
-                    return what == 1 ? row % ERROR_KINDS : bitAt(byPoint[row], left);
+                    return what == 1 ? row % ERROR_KINDS : numberOfBit(byPoint[row], left);
                 }
                 left -= many;
             }
@@ -911,7 +854,7 @@ public final class LoanPoints {
         }
 
         /** The number of the i-th bit that is set. */
-        private static int bitAt(int bits, int i) {
+        private static int numberOfBit(int bits, int i) {
             int left = i;
             for (int number = 0; number < POINTS; number++) {
                 if (hasBit(bits, number)) {
@@ -925,9 +868,10 @@ public final class LoanPoints {
         }
     }
 
-    /** All that is found about the statements of a listing. */
+    /** All that is found about the statements of a listing, found once for each state of it. */
     private static final class Check {
         private final Listing listing;
+        private boolean known = false;
         final Flow flow = new Flow();
         final Lending lending = new Lending();
         final Faults faults = new Faults();
@@ -936,14 +880,31 @@ public final class LoanPoints {
             this.listing = listing;
         }
 
-        void examine() {
-            flow.survey(listing);
-            lending.survey(listing, flow);
-            faults.survey(listing, flow, lending);
+        void forget() {
+            known = false;
+        }
+
+        Check examine() {
+            if (!known) {
+                flow.findNext(listing);
+                flow.findReached();
+                flow.findUses(listing);
+                flow.findLive();
+                flow.findRegions(listing);
+                lending.findLoans(listing, flow.reachedPoints);
+                lending.findHeld(listing, flow);
+                lending.markPoints(listing, flow);
+                lending.findScopes(flow, listing.size);
+                faults.findClashes(listing, lending);
+                faults.findMisuses(listing, lending);
+                faults.addUp(listing.size);
+                known = true;
+            }
+            return this;
         }
     }
 
-    /** What would be, if one statement were another; asked of a program that is checked. */
+    /** What would be, if one statement were another. */
     private static final class Plans {
         private final Listing listing;
         private final Check check;
@@ -969,6 +930,7 @@ public final class LoanPoints {
             if (mendKnown) {
                 return;
             }
+            check.examine();
             mendKnown = true;
             mendPoint = NONE;
             mendErrors = NONE;
@@ -985,6 +947,7 @@ public final class LoanPoints {
             if (softKnown) {
                 return;
             }
+            check.examine();
             softKnown = true;
             softPoints = 0;
             for (int point = 0; point < listing.size; point++) {
@@ -1001,14 +964,15 @@ public final class LoanPoints {
             if (told == kind || !hasBit(check.flow.reachedPoints, point)) {
                 return check.faults.total;
             }
-            listing.kinds[point] = kind;
+            listing.turn(point, kind);
+            trial.forget();
             trial.examine();
-            listing.kinds[point] = told;
+            listing.turn(point, told);
             return trial.faults.total;
         }
     }
 
-    /** The witness of a clash; asked of a program that is checked. */
+    /** The witness of a clash. */
     private static final class Trail {
         private final Listing listing;
         private final Check check;
@@ -1037,7 +1001,7 @@ public final class LoanPoints {
             if (!listing.has(access) || !listing.has(loan)) {
                 return;
             }
-            append(loan);
+            lengthen(loan);
             measure(1 << access, check.lending.passable(listing, check.flow, loan));
             follow(loan);
             measure(usesOf(loan), check.flow.reachedPoints);
@@ -1091,12 +1055,12 @@ public final class LoanPoints {
         private void follow(int start) {
             int point = nearestBehind(start);
             for (int step = 0; point != NONE && step < POINTS; step++) {
-                append(point);
+                lengthen(point);
                 point = distances[point] == 0 ? NONE : nearestBehind(point);
             }
         }
 
-        private void append(int point) {
+        private void lengthen(int point) {
             if (length < TRAIL) {
                 points[length] = point;
                 length++;
@@ -1182,10 +1146,11 @@ public final class LoanPoints {
             }
         }
 
+        /** Why a statement is bad, 1 to 4; NONE, if it is not. */
         private int fault(int point) {
-            int reference = held[listing.ownerAt(point)];
-            if (!listing.goesThroughAt(point)) {
-                return listing.lendsAt(point) && reference != NONE ? 4 : NONE;
+            int reference = held[listing.owners[point]];
+            if (!listing.goesThrough[point]) {
+                return listing.lends[point] && reference != NONE ? 4 : NONE;
             }
             if (reference == NONE) {
                 return 1;
@@ -1193,8 +1158,8 @@ public final class LoanPoints {
             if (hasStale(reference)) {
                 return 2;
             }
-            int kind = listing.kindAt(point);
-            boolean writes = kind == SET || kind == TAKE || kind == PLAN;
+            int act = listing.acts[point];
+            boolean writes = act == SET || act == TAKE || act == PLAN;
             return writes && hasShared(reference) ? 3 : NONE;
         }
 
@@ -1221,38 +1186,44 @@ public final class LoanPoints {
         }
 
         private void perform(int point) {
-            int kind = listing.kindAt(point);
-            int owner = listing.ownerAt(point);
+            int act = listing.acts[point];
+            int owner = listing.owners[point];
             int x = listing.xs[point];
-            int by = listing.goesThroughAt(point) ? held[owner] : NONE;
+            boolean lends = listing.lends[point];
+            int by = listing.goesThrough[point] ? held[owner] : NONE;
             if (by != NONE && kinds[by] == PLAN && !awake[by]) {
                 touch(spots[by], true, by);
                 awake[by] = true;
             }
-            int spot = by == NONE ? owner * 3 + listing.pathAt(point) : spotThrough(by, listing.pathAt(point));
-            if (kind == USE || kind == SHARE || kind == PLAN) {
+            int spot = spotOf(point, by);
+            if (act == USE || act == SHARE || act == PLAN) {
                 touch(spot, false, by);
-            } else if (kind == SET || kind == TAKE) {
+            } else if (act == SET || act == TAKE) {
                 touch(spot, true, by);
-            } else if (kind == MOVE) {
+            } else if (act == MOVE) {
                 touch(owner * 3, true, NONE);
             }
-            if (listing.lendsAt(point) || kind == MOVE) {
+            if (lends || act == MOVE) {
                 touch(x * 3, true, NONE);
             }
-            if (listing.lendsAt(point)) {
-                held[x] = make(kind, spot, by);
-            } else if (kind == SET && by == NONE) {
+            if (lends) {
+                held[x] = make(act, spot, by);
+            } else if (act == SET && by == NONE) {
                 held[owner] = NONE;
-            } else if (kind == MOVE && owner != x) {
+            } else if (act == MOVE && owner != x) {
                 held[x] = held[owner];
                 held[owner] = NONE;
             }
         }
 
-        private int spotThrough(int reference, int path) {
-            boolean whole = spots[reference] % 3 == 0;
-            return whole ? spots[reference] + path - DEEP : spots[reference];
+        /** The spot of a statement's place, gone to through a reference, or through none. */
+        private int spotOf(int point, int by) {
+            int path = listing.paths[point];
+            if (by == NONE) {
+                return listing.owners[point] * 3 + path % 3;
+            }
+            boolean whole = spots[by] % 3 == 0;
+            return whole ? spots[by] + path - DEEP : spots[by];
         }
 
         private int make(int kind, int spot, int from) {
