@@ -12,6 +12,7 @@ public final class ErrorsTest {
         order();
         witness();
         witnessEnds();
+        witnessIsLong();
         wrongNumbers();
         dues.end();
     }
@@ -133,6 +134,36 @@ public final class ErrorsTest {
         // the second part may leave the region: point 3 writes x, point 4 reads it all the same
         shows("past the region", Dues.program(TAKE, 1, 0, 0, SHARE, 0, 13, 0, SKIP, 0, 0, 0, SET, 0, 10, 0, USE, 0, 10, 0),
             0, 0, 1, 2, 3, 4);
+    }
+
+    private static void witnessIsLong() {
+        // a ring of all 24 points, from the loan at 0 to itself
+        LoanPoints ring = Dues.program(TAKE, 1, 0, 0, USE, 0, 23, 0, MOVE, 2, 10, 0);
+        for (int p = 3; p < 23; p++) {
+            ring.add(SKIP, 0, 0, 0);
+        }
+        ring.add(GO, 0, 0, 0);
+        int[] round = new int[26];
+        for (int j = 0; j < 26; j++) {
+            round[j] = j % 24;
+        }
+        dues.due("ring: its first error", ring.error(0, 0) + ring.error(0, 1) + ring.error(0, 2), 0);
+        shows("ring", ring, 0, round);
+        LoanPoints line = Dues.program(TAKE, 1, 0, 0, USE, 0, 0, 0);
+        for (int p = 2; p < 23; p++) {
+            line.add(SKIP, 0, 0, 0);
+        }
+        line.add(USE, 0, Dues.place(13), 0);
+        int[] all = new int[24];
+        for (int j = 0; j < 24; j++) {
+            all[j] = j;
+        }
+        shows("line", line, 0, all);
+        // the way by point 0 is shorter, but 0 kills the loan
+        LoanPoints around = Dues.program(TAKE, 1, 0, 0, MAYBE, 0, 0, 8, TAKE, 2, 13, 0, MAYBE, 0, 0, 0, SKIP, 0, 0, 0, SKIP, 0, 0, 0,
+            SKIP, 0, 0, 0, SKIP, 0, 0, 0, USE, 0, 13, 0, USE, 0, 23, 0);
+        is("around", around, 0, 0, 0, 8, 0, 2, 9, 1, 2);
+        shows("around what kills", around, 1, 2, 3, 4, 5, 6, 7, 8, 9);
     }
 
     private static void wrongNumbers() {

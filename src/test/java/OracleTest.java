@@ -28,6 +28,7 @@ public final class OracleTest {
             change(random, points, code);
             compare(round, points, new Oracle(code));
         }
+        changesLeaveNothingBehind(random);
         runsOfAcceptedProgramsAreNeverBad(random);
         // a generator that never comes to the point would let all of this pass
         due(-1, "programs are accepted", accepted > 100 ? 1 : 0, 1);
@@ -208,6 +209,37 @@ public final class OracleTest {
             h = 31 * h + answer;
         }
         return h;
+    }
+
+    /** An object that was changed and asked all along answers as a new one with the same statements. */
+    private static void changesLeaveNothingBehind(Random random) {
+        for (int round = 0; round < 400; round++) {
+            LoanPoints points = new LoanPoints();
+            List<int[]> code = new ArrayList<>();
+            int turned = random.nextInt(8);
+            for (int step = 0; step < 60; step++) {
+                int[] s = random.nextInt(5) == 0 ? anyStatement(random, 24) : likelyStatement(random, 10);
+                // the likely variables are few: turned, each of the eight is a reference in some round
+                s[1] = (s[1] + turned) % 8;
+                s[2] = (s[2] + 6 * turned) % 48;
+                if (code.size() < 4 || code.size() < 24 && random.nextInt(4) == 0) {
+                    code.add(s);
+                    points.add(s[0], s[1], s[2], s[3]);
+                } else if (random.nextInt(4) == 0) {
+                    code.remove(code.size() - 1);
+                    points.back();
+                } else {
+                    int p = random.nextInt(code.size());
+                    code.set(p, s);
+                    points.alter(p, s[0], s[1], s[2], s[3]);
+                }
+                LoanPoints other = new LoanPoints();
+                for (int[] told : code) {
+                    other.add(told[0], told[1], told[2], told[3]);
+                }
+                due(round, "digest behind changes", points.digest(), other.digest());
+            }
+        }
     }
 
     /** What the two halves of the document are for: a program without errors has no run that is bad. */
