@@ -1,6 +1,9 @@
 /** Counts answers, and prints each that is not the one that is due. */
 final class Dues {
     private final String name;
+    private String sentence = "";
+    private int sentences = 0;
+    private int answersAhead = 0;
     private int answers = 0;
     private int wrong = 0;
 
@@ -8,16 +11,45 @@ final class Dues {
         this.name = name;
     }
 
+    /** What is due from here on, in the document's own words. */
+    void sentence(String words) {
+        endSentence();
+        sentence = words;
+        sentences++;
+        answersAhead = answers;
+    }
+
+    private void endSentence() {
+        if (sentences > 0 && answers == answersAhead) {
+            wrong++;
+            System.out.println(name + ": \"" + sentence + "\" has no test");
+        }
+    }
+
     void due(String call, long got, long want) {
         answers++;
         if (got != want) {
             wrong++;
-            System.out.println(name + ": " + call + " answered " + got + ", due is " + want);
+            System.out.println(name + place() + ": " + call + " answered " + got + ", due is " + want);
         }
     }
 
+    void due(String call, String got, String want) {
+        answers++;
+        if (!got.equals(want)) {
+            wrong++;
+            System.out.println(name + place() + ": " + call + ":\n  " + got + "\n  is not\n  " + want);
+        }
+    }
+
+    private String place() {
+        return sentence.isEmpty() ? "" : ", \"" + sentence + "\"";
+    }
+
     void end() {
-        System.out.println(name + ": " + answers + " answers, " + wrong + " not as due");
+        endSentence();
+        String told = sentences > 0 ? sentences + " sentences, " : "";
+        System.out.println(name + ": " + told + answers + " answers, " + wrong + " not as due");
         if (wrong != 0 || answers == 0) {
             System.exit(1);
         }
