@@ -1,8 +1,11 @@
+import java.util.HashSet;
+import java.util.Set;
+
 /** Counts answers, and prints each that is not the one that is due. */
 final class Dues {
     private final String name;
     private String sentence = "";
-    private int sentences = 0;
+    private final Set<String> sentences = new HashSet<>();
     private int answersAhead = 0;
     private int answers = 0;
     private int wrong = 0;
@@ -15,12 +18,12 @@ final class Dues {
     void sentence(String words) {
         endSentence();
         sentence = words;
-        sentences++;
+        sentences.add(words);
         answersAhead = answers;
     }
 
     private void endSentence() {
-        if (sentences > 0 && answers == answersAhead) {
+        if (!sentences.isEmpty() && answers == answersAhead) {
             wrong++;
             System.out.println(name + ": \"" + sentence + "\" has no test");
         }
@@ -48,7 +51,7 @@ final class Dues {
 
     void end() {
         endSentence();
-        String told = sentences > 0 ? sentences + " sentences, " : "";
+        String told = sentences.isEmpty() ? "" : sentences.size() + " sentences, ";
         System.out.println(name + ": " + told + answers + " answers, " + wrong + " not as due");
         if (wrong != 0 || answers == 0) {
             System.exit(1);

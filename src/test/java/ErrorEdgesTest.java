@@ -130,6 +130,8 @@ public final class ErrorEdgesTest {
             Dues.program(MAYBE, 0, 0, 3, SHARE, 1, 0, 0, GO, 0, 0, 4, SHARE, 1, 0, 0, USE, 0, 13, 0, USE, 0, 13, 0), "");
         is("what does not go through it wakes nothing",
             Dues.program(PLAN, 1, 0, 0, SHARE, 2, 0, 0, USE, 0, 10, 0, USE, 0, 23, 0, USE, 0, 10, 0), "");
+        is("not flatly: what goes through the place's variable, too",
+            Dues.program(TAKE, 0, 70, 0, PLAN, 1, 0, 0, SHARE, 2, 3, 0, USE, 0, 13, 0, USE, 0, 23, 0), "1.3.0 3.0.2");
         is("one that is active already, too",
             Dues.program(PLAN, 1, 0, 0, USE, 0, 13, 0, SHARE, 2, 13, 0, SHARE, 3, 0, 0, USE, 0, 13, 0, USE, 0, 33, 0, USE, 0, 23, 0), "3.0.0 4.0.3");
     }
@@ -208,6 +210,8 @@ public final class ErrorEdgesTest {
         z.alter(1, STOP, 1, 0, 0);
         dues.due("a move that is no more", z.bears(0), 1);
         dues.due("the last of 24", lastLoan().bears(23), Dues.bits(7));
+        LoanPoints back = Dues.program(MOVE, 5, 40, 0, MOVE, 4, 30, 0, MOVE, 3, 20, 0, MOVE, 2, 10, 0, TAKE, 1, 0, 0);
+        dues.due("whatever the order", back.bears(4), Dues.bits(1, 2, 3, 4, 5));
     }
 
     private static LoanPoints lastLoan() {
@@ -229,6 +233,16 @@ public final class ErrorEdgesTest {
         x.alter(2, SET, 0, 6, 0);
         x.alter(3, GO, 0, 0, 6);
         shows("a way out of the region is none", x, 0, 0, 1, 3, 6, 7);
+        // by 7, which kills the loan, and by 11, which is not in the region, it is shorter
+        LoanPoints z = Dues.program(TAKE, 1, 0, 0, TAKE, 2, 13, 0, MAYBE, 0, 0, 11, MAYBE, 0, 0, 7, SKIP, 0, 0, 0, SKIP, 0, 0, 0, GO, 0, 0, 8,
+            SET, 0, 10, 0, MOVE, 3, 10, 0, USE, 0, 20, 0, STOP, 0, 0, 0, SET, 0, 20, 0, GO, 0, 0, 8);
+        is("a way past what kills it", z, "8.0.1");
+        shows("a way past what kills it is none", z, 0, 1, 2, 3, 4, 5, 6, 8, 9);
+        // by 0, which kills the loan, it is shorter
+        LoanPoints k = Dues.program(SET, 0, 10, 0, MAYBE, 0, 0, 10, TAKE, 1, 0, 0, TAKE, 2, 13, 0, MAYBE, 0, 0, 0, SKIP, 0, 0, 0, SKIP, 0, 0, 0,
+            SKIP, 0, 0, 0, SKIP, 0, 0, 0, SKIP, 0, 0, 0, MOVE, 3, 10, 0, USE, 0, 20, 0);
+        is("a way by 0, which kills it", k, "10.0.3");
+        shows("a way by 0, which kills it, is none", k, 0, 3, 4, 5, 6, 7, 8, 9, 10, 11);
         dues.sentence("the shortest first part, of like ones the one with the least second POINT, and so on");
         // 1 goes to 2 or 4, both of them by one more to 6
         LoanPoints y = Dues.program(TAKE, 1, 0, 0, MAYBE, 0, 0, 4, GO, 0, 0, 6, STOP, 0, 0, 0, GO, 0, 0, 6, STOP, 0, 0, 0, SET, 0, 0, 0, USE, 0, 13, 0);
@@ -236,6 +250,15 @@ public final class ErrorEdgesTest {
         y.alter(2, SKIP, 0, 0, 0);
         y.alter(3, GO, 0, 0, 6);
         shows("but the shortest first", y, 0, 0, 1, 4, 6, 7);
+        // from 4 by 5 and 2, or by 8 and 9: the way by 6 and 7 is one longer
+        LoanPoints w = Dues.program(TAKE, 1, 0, 0, GO, 0, 0, 4, GO, 0, 0, 10, STOP, 0, 0, 0, MAYBE, 0, 0, 8, MAYBE, 0, 0, 2, SKIP, 0, 0, 0, GO, 0, 0, 10,
+            SKIP, 0, 0, 0, GO, 0, 0, 10, SET, 0, 0, 0, USE, 0, 13, 0);
+        shows("by a step back", w, 0, 0, 1, 4, 5, 2, 10, 11);
+        dues.sentence("such a way, by POINT 0");
+        shows("first part", Dues.program(SKIP, 0, 0, 0, SET, 0, 0, 0, USE, 0, 10, 0, TAKE, 1, 0, 0, GO, 0, 0, 0), 0, 3, 4, 0, 1, 2);
+        shows("second part", Dues.program(SKIP, 0, 0, 0, USE, 0, 10, 0, TAKE, 1, 0, 0, SET, 0, 0, 0, GO, 0, 0, 0), 0, 2, 3, 4, 0, 1);
+        shows("a use at 0", Dues.program(USE, 0, 10, 0, TAKE, 1, 0, 0, SET, 0, 0, 0, GO, 0, 0, 0), 0, 1, 2, 3, 0);
+        shows("an access at 0", Dues.program(SET, 0, 0, 0, USE, 0, 10, 0, TAKE, 1, 0, 0, GO, 0, 0, 0), 0, 2, 3, 0, 1);
     }
 
     private static void secondPart() {

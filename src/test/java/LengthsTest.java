@@ -11,6 +11,7 @@ public final class LengthsTest {
         countsUpAndDown();
         twentyFour();
         lastPoint();
+        lastLoans();
         lastJumps();
         calls();
         dues.end();
@@ -195,6 +196,29 @@ public final class LengthsTest {
         dues.due("soft behind it", x.soft(), Dues.bits(0, 23));
         dues.due("back", x.back(), 23);
         dues.due("errors then", x.errors(), 0);
+    }
+
+    private static void lastLoans() {
+        dues.sentence("LOANS, told by their POINTS: as late as they may clash");
+        LoanPoints x = new LoanPoints();
+        for (int p = 0; p < 20; p++) {
+            x.add(SKIP, 0, 0, 0);
+        }
+        x.add(PLAN, 1, 0, 0);
+        x.add(SHARE, 2, 0, 0);
+        x.add(USE, 0, 9, 0);
+        x.add(USE, 0, 15, 0);
+        dues.due("errors", x.errors(), 1);
+        dues.due("point", x.error(0, 0), 22);
+        dues.due("number", x.error(0, 2), 21);
+        x.alter(23, USE, 0, 9, 0);
+        dues.due("active", x.active(23), Dues.bits(20));
+        dues.due("no errors", x.errors(), 0);
+        x.alter(22, SET, 0, 0, 0);
+        dues.due("a clash with the plan", x.error(0, 2), 20);
+        x.alter(22, TAKE, 2, 0, 0);
+        x.alter(23, SHARE, 1, 15, 0);
+        dues.due("loans", x.loans(), Dues.bits(20, 21, 22, 23));
     }
 
     private static void lastJumps() {

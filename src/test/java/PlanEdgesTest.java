@@ -139,6 +139,9 @@ public final class PlanEdgesTest {
         runs("just to the bad one", line, 0, 24, 23, 1, 24);
         runs("one more", line, 0, 25, 23, 1, 24);
         line.alter(0, USE, 0, 3, 0);
+        runs("fewer than asked before", ring, 0, 0, NONE, NONE, 0);
+        runs("more again", ring, 0, 7, NONE, NONE, 7);
+        runs("fewer again", ring, 0, 3, NONE, NONE, 3);
         runs("no steps to the first", line, 0, 0, NONE, NONE, 0);
         runs("the first", line, 0, 1, 0, 1, 1);
         dues.sentence("how many are done (2; with that one)");
@@ -181,24 +184,65 @@ public final class PlanEdgesTest {
     }
 
     private static void spots() {
+        for (int v = 0; v < 8; v++) {
+            spotsOf(v);
+            spotsThrough(v);
+            spotsWritten(v);
+        }
+    }
+
+    /** What is written of a variable meets a reference to it, or does not. */
+    private static void spotsOf(int v) {
         dues.sentence("A SPOT meets another of its VARIABLE, if either is whole, or both are one");
+        int r = (v + 3) % 8;
         for (int a = 0; a < 3; a++) {
             for (int b = 0; b < 3; b++) {
                 boolean meets = a == 0 || b == 0 || a == b;
-                LoanPoints x = Dues.program(SHARE, 1, a, 0, SET, 0, b, 0, USE, 0, 13, 0);
-                dues.due("spots " + a + ", " + b, x.run(0, 9, 1), meets ? 2 : NONE);
-                LoanPoints y = Dues.program(SHARE, 1, a, 0, SET, 0, 70 + b, 0, USE, 0, 13, 0);
-                dues.due("spots " + a + ", " + b + " of another variable", y.run(0, 9, 1), NONE);
+                LoanPoints x = Dues.program(SHARE, r, 10 * v + a, 0, SET, 0, 10 * v + b, 0, USE, 0, 10 * r + 3, 0);
+                dues.due("spots " + a + ", " + b + " of " + v, x.run(0, 9, 1), meets ? 2 : NONE);
+                for (int u = 0; u < 8; u++) {
+                    LoanPoints y = Dues.program(SHARE, r, 10 * v + a, 0, SET, 0, 10 * u + b, 0, USE, 0, 10 * r + 3, 0);
+                    int why = u == r ? 1 : u == v && meets ? 2 : NONE;
+                    dues.due("spots " + a + " of " + v + " and " + b + " of " + u, y.run(0, 9, 1), why);
+                }
             }
         }
+    }
+
+    private static void spotsThrough(int v) {
         dues.sentence("THROUGH a reference: that one's SPOT; the first, second part of it is that part of its VARIABLE, if it is whole, else itself");
+        int r = (v + 1) % 8;
+        int s = (v + 5) % 8;
+        int t = (v + 6) % 8;
         for (int a = 0; a < 3; a++) {
             for (int path = 3; path < 6; path++) {
-                int spot = a == 0 ? path - 3 : a;
-                for (int b = 0; b < 3; b++) {
-                    LoanPoints y = Dues.program(TAKE, 1, a, 0, TAKE, 2, 10 + path, 0, TAKE, 3, 10 + 3 + b, 0, SET, 0, 23, 0);
-                    int other = a == 0 ? b : a;
-                    dues.due("path " + path + " and path " + (3 + b) + " of spot " + a, y.run(0, 9, 1), spot == 0 || other == 0 || spot == other ? 2 : NONE);
+                for (int other = 3; other < 6; other++) {
+                    int one = a == 0 ? path - 3 : a;
+                    int two = a == 0 ? other - 3 : a;
+                    LoanPoints x = Dues.program(TAKE, r, 10 * v + a, 0, TAKE, s, 10 * r + path, 0, TAKE, t, 10 * r + other, 0, SET, 0, 10 * s + 3, 0);
+                    boolean meets = one == 0 || two == 0 || one == two;
+                    dues.due("paths " + path + ", " + other + " of spot " + a + " of " + v, x.run(0, 9, 1), meets ? 2 : NONE);
+                }
+            }
+        }
+    }
+
+    /** What moves and lends write: the whole of their variables. */
+    private static void spotsWritten(int v) {
+        dues.sentence("MOVE the whole VARIABLE of p, for writing; SHARE, TAKE, PLAN, MOVE x as a whole");
+        int r = (v + 2) % 8;
+        int free = (v + 4) % 8;
+        for (int u = 0; u < 8; u++) {
+            if (u == r || u == free) {
+                continue;
+            }
+            for (int a = 0; a < 3; a++) {
+                int stale = u == v ? 2 : NONE;
+                LoanPoints moved = Dues.program(SHARE, r, 10 * v + a, 0, MOVE, free, 10 * u + a, 0, USE, 0, 10 * r + 3, 0);
+                dues.due("a move of " + u + " and a loan of " + v, moved.run(0, 9, 1), stale);
+                for (int kind = SHARE; kind <= MOVE; kind++) {
+                    LoanPoints become = Dues.program(SHARE, r, 10 * v + a, 0, kind, u, 10 * free, 0, USE, 0, 10 * r + 3, 0);
+                    dues.due("kind " + kind + " to " + u + " and a loan of " + v, become.run(0, 9, 1), stale);
                 }
             }
         }
@@ -215,6 +259,17 @@ public final class PlanEdgesTest {
             runs("a use, kind " + kind, Dues.program(kind, 1, 0, 0, USE, 0, 0, 0, USE, 0, 13, 0), 0, 300, kind == TAKE ? 2 : NONE, kind == TAKE ? 2 : NONE, 3);
             runs("a set, kind " + kind, Dues.program(kind, 1, 0, 0, SET, 0, 0, 0, USE, 0, 13, 0), 0, 300, 2, 2, 3);
         }
+        for (int kind : new int[] {USE, SHARE, PLAN}) {
+            runs("what is taken is read, by kind " + kind, Dues.program(TAKE, 1, 0, 0, kind, 2, 1, 0, USE, 0, 13, 0), 0, 300, 2, 2, 3);
+            runs("what is shared is read, by kind " + kind, Dues.program(SHARE, 1, 0, 0, kind, 2, 1, 0, USE, 0, 13, 0), 0, 300, NONE, NONE, 3);
+        }
+        for (int kind : new int[] {SET, TAKE}) {
+            runs("what is shared is written, by kind " + kind, Dues.program(SHARE, 1, 0, 0, kind, 2, 1, 0, USE, 0, 13, 0), 0, 300, 2, 2, 3);
+        }
+        for (int path = 0; path < 3; path++) {
+            runs("a reference that is set is a value", Dues.program(SHARE, 1, 0, 0, SET, 0, 10 + path, 0, USE, 0, 13, 0), 0, 300, 2, 1, 3);
+        }
+        runs("set through, it is not", Dues.program(TAKE, 1, 0, 0, SET, 0, 13, 0, USE, 0, 13, 0), 0, 300, NONE, NONE, 3);
         dues.sentence("An ACCESS to a VARIABLE itself is by none");
         runs("a use of the reference", Dues.program(TAKE, 1, 0, 0, USE, 0, 10, 0, SET, 0, 13, 0), 0, 300, NONE, NONE, 3);
         runs("a use of what is lent by itself", Dues.program(TAKE, 1, 10, 0, USE, 0, 10, 0, USE, 0, 13, 0), 0, 300, 2, 2, 3);

@@ -89,6 +89,13 @@ public final class SheetEdgesTest {
         dues.due("no items", x.sheet(0, 0, 0), 0);
         dues.due("an empty one is not lost", x.lose(0), 0);
         dues.due("but then", x.lose(0), LOST);
+        for (int i = 0; i < 60; i++) {
+            LoanPoints full = new LoanPoints();
+            full.sheet(0, 2, 60);
+            full.put(0, 2, i, 9);
+            full.sheet(0, 2, 60);
+            dues.due("item " + i + " of a new row", full.get(0, 2, i), 0);
+        }
         dues.sentence("A SHEET is a row of its own");
         LoanPoints y = new LoanPoints();
         for (int s = 0; s < 4; s++) {

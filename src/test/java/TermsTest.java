@@ -20,6 +20,7 @@ public final class TermsTest {
         holds();
         steps();
         kills();
+        killsAll();
         ownLoans();
         active();
         dues.end();
@@ -270,6 +271,11 @@ public final class TermsTest {
         }
         x.add(USE, 0, 47, 0);
         dues.due("at the last of 24", x.live(7), Dues.bits(0, 1, 2, 23));
+        LoanPoints ring = Dues.program(SKIP, 0, 0, 0, GO, 0, 0, 0);
+        for (int v = 0; v < 8; v++) {
+            dues.due("not by a ring in which none reads it", ring.live(v), 0);
+            dues.due("nor a region", ring.region(v), 0);
+        }
         dues.sentence("live: POINTS (all that have a STATEMENT)");
         x.alter(0, STOP, 0, 0, 0);
         dues.due("where it is not reached", x.live(7), Dues.bits(1, 2, 23));
@@ -288,6 +294,10 @@ public final class TermsTest {
             dues.due("by moves, of " + v, x.region(v), from);
         }
         dues.due("of one that hands nothing on", x.region(0), 0);
+        x = Dues.program(MOVE, 2, 10, 0, USE, 0, 20, 0);
+        dues.due("by a move at 0", x.region(1), Dues.bits(0, 1));
+        x = Dues.program(SHARE, 2, 13, 0, SKIP, 0, 0, 0, USE, 0, 20, 0);
+        dues.due("by a loan at 0", x.region(1), Dues.bits(0, 1, 2));
         dues.sentence("for each MOVE that of the VARIABLE of p all that that of x has, not the other way");
         x = Dues.program(SET, 0, 10, 0, MOVE, 2, 10, 0, SET, 0, 10, 0, USE, 0, 10, 0, USE, 0, 20, 0);
         dues.due("of p's", x.region(1), Dues.bits(1, 2, 3, 4));
@@ -364,6 +374,18 @@ public final class TermsTest {
                 dues.due("kind " + o[0] + " of " + o[2] + " and a loan of path " + path, x.scope(3) & Dues.bits(1), Dues.bits(1));
             }
         }
+    }
+
+    private static void killsAll() {
+        dues.sentence("a STATEMENT KILLS each LOAN whose p goes THROUGH what it WRITES");
+        LoanPoints x = Dues.program(TAKE, 1, 0, 0, SHARE, 2, 13, 0, SHARE, 3, 14, 0, SHARE, 4, 15, 0, SHARE, 5, 63, 0, SET, 0, 10, 0,
+            USE, 0, 20, 0, USE, 0, 30, 0, USE, 0, 40, 0, USE, 0, 50, 0);
+        dues.due("ahead of it", x.scope(5), Dues.bits(0, 1, 2, 3, 4));
+        dues.due("behind it", x.scope(6), Dues.bits(0, 4));
+        x.alter(5, MOVE, 1, Dues.place(60), 0);
+        dues.due("a move writes two", x.scope(6), Dues.bits(0));
+        x.alter(5, SKIP, 1, Dues.place(60), 0);
+        dues.due("a skip none", x.scope(6), Dues.bits(0, 1, 2, 3, 4));
     }
 
     private static void ownLoans() {
