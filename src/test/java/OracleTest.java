@@ -12,6 +12,7 @@ public final class OracleTest {
     private static int accepted = 0;
     private static int witnesses = 0;
     private static int badRuns = 0;
+    private static int lateBadRuns = 0;
 
     public static void main(String[] args) {
         Random random = new Random(20261117L);
@@ -30,10 +31,12 @@ public final class OracleTest {
         }
         changesLeaveNothingBehind(random);
         runsOfAcceptedProgramsAreNeverBad(random);
+        longRuns(random);
         // a generator that never comes to the point would let all of this pass
         due(-1, "programs are accepted", accepted > 100 ? 1 : 0, 1);
         due(-1, "clashes have witnesses", witnesses > 500 ? 1 : 0, 1);
         due(-1, "runs are bad", badRuns > 500 ? 1 : 0, 1);
+        due(-1, "runs are bad late", lateBadRuns > 500 ? 1 : 0, 1);
         System.out.println("OracleTest: " + calls + " answers, " + wrong + " not as due");
         if (wrong != 0) {
             System.exit(1);
@@ -259,6 +262,34 @@ public final class OracleTest {
                 accepted++;
                 for (int c = 0; c < 6; c++) {
                     due(round, "a run of an accepted program", points.run(random.nextInt(), 100, 0), LoanPoints.NONE);
+                }
+            }
+        }
+    }
+
+    /** Programs that two choices run without harm: by others they go far, and what is stale is met late. */
+    private static void longRuns(Random random) {
+        for (int round = 0; round < 6000; round++) {
+            LoanPoints points = new LoanPoints();
+            List<int[]> code = new ArrayList<>();
+            int size = 4 + random.nextInt(21);
+            for (int tries = 0; code.size() < size && tries < 120; tries++) {
+                int[] s = likelyStatement(random, size);
+                points.add(s[0], s[1], s[2], s[3]);
+                if (points.run(0, 300, 0) == LoanPoints.NONE && points.run(Integer.MAX_VALUE, 300, 0) == LoanPoints.NONE) {
+                    code.add(s);
+                } else {
+                    points.back();
+                }
+            }
+            Oracle oracle = new Oracle(code);
+            for (int c = 0; c < 6; c++) {
+                int choices = random.nextInt();
+                int steps = c < 3 ? 300 : random.nextInt(301);
+                int[] run = oracle.run(choices, steps);
+                lateBadRuns += run[0] >= 0 && run[2] > 12 ? 1 : 0;
+                for (int what = 0; what < 3; what++) {
+                    due(round, "a long run " + what, points.run(choices, steps, what), run[what]);
                 }
             }
         }
